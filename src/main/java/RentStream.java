@@ -32,6 +32,8 @@ public final class RentStream {
     private final ArrayList<Repair> repairs = new ArrayList<>();
     private final Months indexes = new Months(INDEX_AT_FIRST);
     private final Months heatCosts = new Months(0);
+    /** Kept, so that asking for many signs or for many accounts anew makes no objects. */
+    private final StringBuilder lineText = new StringBuilder();
     private final Bill settledAnew = new Bill();
     private int nextIndex = INDEX_AT_FIRST;
     private int day = 0;
@@ -235,9 +237,9 @@ public final class RentStream {
         if (made == null) {
             return ' ';
         }
-        StringBuilder text = new StringBuilder();
-        writeLine(text, lease, month, made);
-        return place < text.length() ? text.charAt(place) : ' ';
+        lineText.setLength(0);
+        writeLine(lineText, lease, month, made);
+        return place < lineText.length() ? lineText.charAt(place) : ' ';
     }
 
     public int use(int flat, int month) throws IndexOutOfBoundsException {

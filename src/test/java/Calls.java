@@ -34,9 +34,17 @@ final class Calls {
         }
     }
 
-    /** The class itself counts: one below it, as the machine throws them, is another. */
+    /**
+     * The class itself counts: one below it, as the machine throws them, is another; and so is one
+     * that the library threw, because the program has to look before it calls.
+     */
     private static String nameOf(RuntimeException thrown) {
         Class<?> kind = thrown.getClass();
+        StackTraceElement[] places = thrown.getStackTrace();
+        String thrower = places.length == 0 ? "?" : places[0].getClassName();
+        if (!thrower.equals("RentStream") && !thrower.equals("Reference")) {
+            return kind.getName() + " thrown by " + thrower;
+        }
         if (kind == IndexOutOfBoundsException.class) {
             return "IOOBE";
         }

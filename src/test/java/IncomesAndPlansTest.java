@@ -8,6 +8,7 @@ public final class IncomesAndPlansTest {
         income(script);
         incomeOfMonths(script);
         paidAhead(script);
+        aheadOfLittle(script);
         pay(script);
         plan(script);
         pass(script);
@@ -169,6 +170,20 @@ public final class IncomesAndPlansTest {
             pass 30 = 90
             desk 0 = 0
             owes 0 = 2000
+            """);
+    }
+
+    private static void aheadOfLittle(Script script) {
+        script.due("10 the desk pays a single cent ahead too", """
+            flat 1 = 0
+            lease 0 2 = 0
+            pass 30 = 30
+            desk 0 = -1
+            owner = 1
+            pass 30 = 60
+            desk 0 = -1
+            owes 0 = 1
+            owner = 0
             """);
     }
 

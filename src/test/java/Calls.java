@@ -57,10 +57,10 @@ final class Calls {
         return kind.getName();
     }
 
-    /** A whole line; the blanks behind its end are looked at, but left out. */
+    /** A whole line; it ends where two blanks stand together, which are left out. */
     private static String text(Office office, int[] args) {
         StringBuilder signs = new StringBuilder();
-        for (int place = 0; place < LONGEST_LINE; place++) {
+        for (int place = 0; place < LONGEST_LINE && signs.indexOf("  ") < 0; place++) {
             signs.append(office.line(args[0], args[1], place));
         }
         return "'" + signs.toString().stripTrailing() + "'";

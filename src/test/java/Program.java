@@ -1,109 +1,120 @@
 /** The program under test as an Office. */
 final class Program implements Office {
     private final RentStream stream = new RentStream();
+    private int calls = 0;
+
+    /** How many calls were made; the document says nothing of an object behind its 512th. */
+    int calls() {
+        return calls;
+    }
+
+    private RentStream called() {
+        calls++;
+        return stream;
+    }
 
     @Override
     public int flat(int rooms) {
-        return stream.flat(rooms);
+        return called().flat(rooms);
     }
 
     @Override
     public int lease(int flat, int rent) {
-        return stream.lease(flat, rent);
+        return called().lease(flat, rent);
     }
 
     @Override
     public int end(int lease) {
-        return stream.end(lease);
+        return called().end(lease);
     }
 
     @Override
     public int index(int points) {
-        return stream.index(points);
+        return called().index(points);
     }
 
     @Override
     public int read(int flat, int shown) {
-        return stream.read(flat, shown);
+        return called().read(flat, shown);
     }
 
     @Override
     public int heat(int cents) {
-        return stream.heat(cents);
+        return called().heat(cents);
     }
 
     @Override
     public int report(int flat, int grade) {
-        return stream.report(flat, grade);
+        return called().report(flat, grade);
     }
 
     @Override
     public int mend(int repair) {
-        return stream.mend(repair);
+        return called().mend(repair);
     }
 
     @Override
     public long income(int lease, int month, int cents) {
-        return stream.income(lease, month, cents);
+        return called().income(lease, month, cents);
     }
 
     @Override
     public long pay(int lease, int cents) {
-        return stream.pay(lease, cents);
+        return called().pay(lease, cents);
     }
 
     @Override
     public long plan(int lease, int parts) {
-        return stream.plan(lease, parts);
+        return called().plan(lease, parts);
     }
 
     @Override
     public int pass(int days) {
-        return stream.pass(days);
+        return called().pass(days);
     }
 
     @Override
     public long owes(int lease) {
-        return stream.owes(lease);
+        return called().owes(lease);
     }
 
     @Override
     public long owesAnew(int lease) {
-        return stream.owesAnew(lease);
+        return called().owesAnew(lease);
     }
 
     @Override
     public long desk(int lease) {
-        return stream.desk(lease);
+        return called().desk(lease);
     }
 
     @Override
     public long owner() {
-        return stream.owner();
+        return called().owner();
     }
 
     @Override
     public long bill(int lease, int month, int what) {
-        return stream.bill(lease, month, what);
+        return called().bill(lease, month, what);
     }
 
     @Override
     public char line(int lease, int month, int place) {
-        return stream.line(lease, month, place);
+        return called().line(lease, month, place);
     }
 
     @Override
     public int use(int flat, int month) {
-        return stream.use(flat, month);
+        return called().use(flat, month);
     }
 
     @Override
     public int points(int flat) {
-        return stream.points(flat);
+        return called().points(flat);
     }
 
     @Override
     public int planOf(int lease) {
-        return stream.planOf(lease);
+        return called().planOf(lease);
     }
 }

@@ -7,13 +7,20 @@ import java.util.List;
  * the reference.
  */
 final class Script {
+    private static final int MOST_CALLS = 512;
+
     private int wrong = 0;
     private int scripts = 0;
 
     void due(String title, String... parts) {
         List<String> lines = lines(parts);
         scripts++;
-        run(title, new Program(), lines);
+        Program program = new Program();
+        run(title, program, lines);
+        if (program.calls() > MOST_CALLS) {
+            System.out.println(title + ": " + program.calls() + " calls are more than the document speaks of");
+            wrong++;
+        }
         run(title + ", without the calls that throw", new Program(), withoutThrows(lines));
         run(title + ", reference", new Reference(), lines);
     }
